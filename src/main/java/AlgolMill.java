@@ -1942,9 +1942,9 @@ public final class AlgolMill {
                 type = type == Symbols.NONE ? Symbols.INTEGER : type;
             } else if (tokens.take(Tokens.PROCEDURE)) {
                 sort = Symbols.PROCEDURE;
-            } else if (sort == Symbols.NOTHING) {
-                sort = tokens.take(Tokens.LABEL) ? Symbols.LABEL : Symbols.SWITCH;
-                tokens.take(Tokens.SWITCH);
+            } else if (type == Symbols.NONE) {
+                sort = tokens.kind() == Tokens.LABEL ? Symbols.LABEL : Symbols.SWITCH;
+                tokens.take(tokens.kind());
             }
             for (int i = 0; i < Tokens.MOST && (i == 0 || tokens.take(Tokens.COMMA)); i++) {
                 int formal = formal(procedure);
