@@ -60,7 +60,7 @@ public final class AlgolMill {
         if (!made) {
             throw new IllegalStateException();
         }
-        machine.load(maker.code());
+        machine.load(maker.code(), maker.owns());
         hasProgram = true;
         return maker.procedures();
     }
@@ -241,9 +241,7 @@ public final class AlgolMill {
         }
 
         void read(int[] text, int length) {
-            size = 0;
-            failedAt = -1;
-            Arrays.fill(names, 0);
+            forget();
             for (int at = 0; at < length; at++) {
                 int sign = Rows.get(text, at);
                 if (sign != ' ' && sign != '\n') {
@@ -252,6 +250,21 @@ public final class AlgolMill {
             }
             add(OVER, length, 0);
             rewind();
+        }
+
+        /** Takes the NAMES of the TEXT before out of their table: cheaper than to clear it all. */
+        private void forget() {
+            for (int token = 0; token < size; token++) {
+                if (kindOf(token) == NAME) {
+                    Rows.set(names, nameOf(token), 0);
+                }
+            }
+            size = 0;
+            failedAt = -1;
+        }
+
+        int size() {
+            return size;
         }
 
         private void add(int kind, int where, long value) {
@@ -484,13 +497,12 @@ public final class AlgolMill {
         private int owns;
         private int procedures;
 
-        void clear() {
+        void clear(int tokensRead) {
             size = 0;
             owns = 0;
             procedures = 0;
-            Arrays.fill(byToken, 0);
+            Arrays.fill(byToken, 0, Math.min(tokensRead, Tokens.MOST), 0);
             add(0, 0, NOTHING, NONE, 0);
-            Rows.set(byToken, 0, 0);
         }
 
         int add(int token, int name, int sort, int type, int level) {
@@ -514,6 +526,10 @@ public final class AlgolMill {
 
         int size() {
             return size;
+        }
+
+        int owns() {
+            return owns;
         }
 
         int procedures() {
@@ -646,9 +662,9 @@ public final class AlgolMill {
             this.symbols = symbols;
         }
 
+        /** All SCOPES have been left, so that no NAME has a head any more. */
         void clear() {
-            Arrays.fill(heads, 0);
-            Arrays.fill(firstOf, 0);
+            Arrays.fill(firstOf, 0, Math.min(scopes + 1, MOST), 0);
             restart();
         }
 
@@ -1087,7 +1103,7 @@ public final class AlgolMill {
         void clear() {
             fault = 0;
             faultWhere = -1;
-            symbols.clear();
+            symbols.clear(tokens.size());
             scopes.clear();
         }
 
@@ -1664,6 +1680,10 @@ public final class AlgolMill {
             return symbols.procedures();
         }
 
+        int owns() {
+            return symbols.owns();
+        }
+
         Code code() {
             return code;
         }
@@ -2187,6 +2207,13 @@ public final class AlgolMill {
         private static final int MOST_WAITING = (Tokens.MOST_DEPTH + 2) * 11 + 24 + 16;
         private static final int STACK_SIZE = (MOST_DEPTH + 1) * MOST_WAITING;
 
+        /** What's counted of a RUN, by the numbers that count has for it. */
+        private static final int PRINTS = 3;
+        private static final int STEPS = 4;
+        private static final int DEEPEST = 5;
+        private static final int FULLEST = 6;
+        private static final int STRANGE = 7;
+
         private static final int GOING = -2;
         private static final int STOPPED = -1;
         private static final int ENDED = 0;
@@ -2203,7 +2230,9 @@ public final class AlgolMill {
         private final int[] backs = new int[MOST_DEPTH + 1];
         private final int[] callers = new int[MOST_DEPTH + 1];
         private final long[] kept = new long[MOST_KEPT];
+        private final int[] tallies = new int[STRANGE + 1];
         private int size;
+        private int owns;
         private int state;
         private int next;
         private int frame;
@@ -2211,14 +2240,10 @@ public final class AlgolMill {
         private int height;
         private int depth;
         private int elements;
-        private int steps;
         private int allowed;
-        private int prints;
-        private int deepest;
-        private int mostElements;
-        private int strange;
 
-        void load(Code made) {
+        void load(Code made, int ownVariables) {
+            owns = Math.min(ownVariables, ELEMENTS_AT);
             size = made.size();
             for (int i = 0; i < size; i++) {
                 Rows.set(code, i, Rows.get(made.words(), i));
@@ -2226,7 +2251,7 @@ public final class AlgolMill {
         }
 
         int kept() {
-            return Math.min(prints, MOST_KEPT);
+            return Math.min(tally(PRINTS), MOST_KEPT);
         }
 
         long printed(int i) {
@@ -2234,20 +2259,15 @@ public final class AlgolMill {
         }
 
         int tally(int what) {
-            switch (what) {
-                case 3:
-                    return prints;
-                case 4:
-                    return steps;
-                case 5:
-                    return deepest;
-                case 6:
-                    return mostElements;
-                case 7:
-                    return strange;
-                default:
-                    return -1;
-            }
+            return what >= PRINTS && what <= STRANGE ? Rows.get(tallies, what) : -1;
+        }
+
+        private void countOne(int what) {
+            Rows.set(tallies, what, tally(what) + 1);
+        }
+
+        private void countMost(int what, int number) {
+            Rows.set(tallies, what, Math.max(tally(what), number));
         }
 
         int go(int most) {
@@ -2264,23 +2284,19 @@ public final class AlgolMill {
 
         private void start(int most) {
             allowed = most;
-            steps = 0;
-            prints = 0;
-            deepest = 0;
-            mostElements = 0;
-            strange = 0;
+            Arrays.fill(tallies, 0);
             depth = 0;
             height = 0;
             elements = 0;
             state = GOING;
-            Arrays.fill(store, 0, ELEMENTS_AT, 0);
+            Arrays.fill(store, 0, owns, 0);
             top = FRAMES_AT;
             enterFrame(codeAt(0), 0);
         }
 
         /** Counts what can't be, and ends the RUN. */
         private void oddity() {
-            strange++;
+            countOne(STRANGE);
             state = ENDED;
         }
 
@@ -2504,8 +2520,8 @@ public final class AlgolMill {
         }
 
         private void print(long value) {
-            Rows.set(kept, prints, value);
-            prints++;
+            Rows.set(kept, tally(PRINTS), value);
+            countOne(PRINTS);
         }
 
         private void clear(int slot, int words) {
@@ -2557,7 +2573,7 @@ public final class AlgolMill {
                 write(ELEMENTS_AT + elements + i, 0);
             }
             elements += (int) size;
-            mostElements = Math.max(mostElements, elements);
+            countMost(FULLEST, elements);
         }
 
         private void jump(int what, int hops, int operand) {
@@ -2659,11 +2675,11 @@ public final class AlgolMill {
         }
 
         private boolean pay() {
-            if (steps >= allowed) {
+            if (tally(STEPS) >= allowed) {
                 state = STOPPED;
                 return false;
             }
-            steps++;
+            countOne(STEPS);
             return true;
         }
 
@@ -2677,7 +2693,7 @@ public final class AlgolMill {
                 return false;
             }
             depth++;
-            deepest = Math.max(deepest, depth);
+            countMost(DEEPEST, depth);
             return true;
         }
 
