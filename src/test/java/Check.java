@@ -8,13 +8,21 @@ final class Check {
         return new AlgolMill();
     }
 
-    /** Feeds the text, one character a byte. */
+    /** Feeds the text, one character a byte; a feed that would go beyond 8192 begins further back. */
     static void feed(AlgolMill mill, String text) {
-        for (int i = 0; i < text.length(); i += 20) {
-            mill.feed(number(text, i), number(text, i + 4), number(text, i + 8), number(text, i + 12),
-                number(text, i + 16));
+        if (text.length() > 8192) {
+            throw new IllegalArgumentException("a text of " + text.length());
         }
-        mill.end((20 - text.length() % 20) % 20);
+        int at = 0;
+        while (at < text.length()) {
+            int back = Math.max(mill.count(0) + 20 - 8192, 0);
+            mill.end(back);
+            at -= back;
+            mill.feed(number(text, at), number(text, at + 4), number(text, at + 8), number(text, at + 12),
+                number(text, at + 16));
+            at += 20;
+        }
+        mill.end(at - text.length());
     }
 
     private static int number(String text, int from) {
