@@ -70,6 +70,9 @@ public final class FaceTest {
         CHECK.due("build", mill.build(), 0);
         Check.feed(mill, "begin");
         CHECK.due("end of all", mill.end(5), 0);
+        Check.feed(mill, "begin array a[1:=");
+        mill.end(1);
+        CHECK.due("what has gone isn't read", Check.built(mill, "") + " " + mill.count(0), "refused 1 16 0");
     }
 
     private static void building() {

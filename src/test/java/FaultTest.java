@@ -36,6 +36,7 @@ public final class FaultTest {
     private static void scopes() {
         CHECK.good("begin procedure p; begin x := 1; l: q end; integer x; procedure q; p; p end", 2);
         CHECK.good("begin integer x; begin boolean x; x := true end; x := 1 end", 0);
+        CHECK.good("begin integer a, a0, a1, a9, ay, az, aa, aaaaaaaaaa, aaaaaaaaa, aaaaaaaaab, b, a9a; end", 0);
         CHECK.fault(4, "begin integer x; begin boolean x; x := ?1 end end");
         CHECK.fault(2, "begin begin integer x; end; ?x := 1 end");
         CHECK.good("begin procedure p(x); integer x; begin boolean x; x := true end; p(1) end", 1);
@@ -350,5 +351,8 @@ public final class FaultTest {
         CHECK.fault(4, all + "?a + 1)" + without);
         CHECK.fault(4, all + "if true then 1 else ?true)" + without);
         CHECK.fault(4, all + "1 + ?true)" + without);
+        CHECK.fault(4, all + "(x + ?true))" + without);
+        CHECK.fault(4, all + "if true then ?l else 1)" + without);
+        CHECK.fault(4, all + "if true then 1 else ?l)" + without);
     }
 }

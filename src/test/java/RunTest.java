@@ -123,6 +123,10 @@ public final class RunTest {
         CHECK.runs("begin integer procedure f; begin print(3); f := 1 end; procedure p(v); array v; v[9, f] := 1;"
             + " array a[1:1]; p(a) end", "1: 3");
         CHECK.runs("begin integer i; for i := 1, 2 do begin array a[1:2]; print(a[1]); a[1] := 5 end end", "0: 0 0");
+        CHECK.runs("begin array c[1:3]; integer i; for i := 1, 2 do begin array a[1:2]; print(a[2]); a[2] := 5 end end",
+            "0: 0 0");
+        CHECK.runs("begin own integer x; array a, b[1:2]; a[1] := 3; b[1] := 4; x := 5; print(a[1]); print(b[1]) end",
+            "0: 3 4");
     }
 
     private static void elements() {
@@ -141,6 +145,10 @@ public final class RunTest {
             1000, "3: 0 91 23 1969");
         CHECK.costs("begin integer i; l: begin array a[1:1500]; i := i + 1; if i < 5 then goto l end;"
             + " begin array a[1:1600]; end end", 100, "0: 0 20 0 1600");
+        CHECK.costs("begin integer i; begin array a[1:100]; end; l: i := i + 1; begin array b[1:1500];"
+            + " if i < 3 then goto l end end", 100, "0: 0 12 0 1500");
+        CHECK.costs("begin array a[1:10]; integer i; a[1] := 3; l: begin array b[1:5]; i := i + 1; b[1] := 7;"
+            + " if i < 3 then goto l end; if a[1] = 3 then print(1) end", 100, "0: 1 17 0 15");
         CHECK.costs("begin integer procedure f; begin array a[1:900]; f := 3 end; array b[1:1000]; begin array c[1:f];"
             + " array d[1:1000 - f]; print(1) end end", 100, "0: 1 8 1 2000");
     }
@@ -254,6 +262,9 @@ public final class RunTest {
             "0: 2 1 0 1 100 2 50 60");
         CHECK.runs("begin integer i; procedure p(e); value e; integer e; print(e); integer procedure f; goto l;"
             + " p(1 + f); print(8); l: i := i + 1; print(i); if i < 3 then p(f) end", "0: 1 2 3");
+        CHECK.runs("begin integer procedure g; begin integer i; procedure h; goto l; print(i + 2 * (3 + k(h)));"
+            + " l: i := i + 1; g := i end; integer procedure k(q); procedure q; q; print(5 + g); print(1 + (2 + g) * 4) end",
+            "0: 6 13");
         CHECK.runs("begin integer i; integer procedure f; goto l; begin array a[1:10]; begin array b[1:f]; end end;"
             + " l: print(1); begin array a[1:2000]; print(2) end end", "0: 1 2");
         CHECK.runs("begin procedure p(e); integer e; begin l: print(e) end; integer i; integer procedure f; begin i := i + 1;"

@@ -152,6 +152,8 @@ public final class SyntaxTest {
         CHECK.good("begin integer i; if true then for i := 1 do if true then else else end", 0);
         CHECK.fault(1, "begin if true then ?integer x; end");
         CHECK.fault(1, "begin x(1) ?:= 2 end");
+        CHECK.fault(1, "begin integer x; x :=?");
+        CHECK.fault(1, "begin print(1 <?");
     }
 
     private static void assignments() {
@@ -268,6 +270,17 @@ public final class SyntaxTest {
         CHECK.good("begin print(" + times(38, "if true then 1 else ") + "1) end", 0);
         CHECK.fault(1, "begin print(" + times(38, "if true then 1 else ") + "if ?true then 1 else 1) end");
         CHECK.good("begin l: goto " + times(39, "(") + "l" + times(39, ")") + " end", 0);
+        String choice = "if true then l else ";
+        CHECK.good("begin l: goto " + times(39, choice) + "l end", 0);
+        CHECK.fault(1, "begin l: goto " + times(39, choice) + "if ?true then l else l end");
+        CHECK.good("begin l: goto if true then " + times(38, "(") + "l" + times(38, ")") + " else l end", 0);
+        CHECK.fault(1, "begin l: goto if true then " + times(39, "(") + "?l" + times(39, ")") + " else l end");
+        CHECK.good("begin l: goto if true then l else " + times(38, "(") + "l" + times(38, ")") + " end", 0);
+        CHECK.fault(1, "begin l: goto if true then l else " + times(39, "(") + "?l" + times(39, ")") + " end");
+        CHECK.good("begin print(if true then " + times(37, "(") + "1" + times(37, ")") + " else 1) end", 0);
+        CHECK.fault(1, "begin print(if true then " + times(38, "(") + "?1" + times(38, ")") + " else 1) end");
+        CHECK.good("begin print(if true then 1 else " + times(37, "(") + "1" + times(37, ")") + ") end", 0);
+        CHECK.fault(1, "begin print(if true then 1 else " + times(38, "(") + "?1" + times(38, ")") + ") end");
         CHECK.fault(1, "begin l: goto " + times(40, "(") + "?l" + times(40, ")") + " end");
     }
 
