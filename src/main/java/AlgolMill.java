@@ -1033,7 +1033,7 @@ public final class AlgolMill {
             return waiting;
         }
 
-        void wait(int sign, int token) {
+        void hold(int sign, int token) {
             Rows.set(signs, waiting, sign);
             Rows.set(signTokens, waiting, token);
             waiting++;
@@ -1256,12 +1256,12 @@ public final class AlgolMill {
                 if (work.strongest(base) > Work.NOT) {
                     return in;
                 }
-                work.wait(Tokens.NOT, tokens.at());
+                work.hold(Tokens.NOT, tokens.at());
                 in = tokens.open(in);
             }
             boolean sign = tokens.kind() == Tokens.PLUS || tokens.kind() == Tokens.MINUS;
             if (sign && work.strongest(base) <= Work.RELATION) {
-                work.wait(-tokens.kind(), tokens.at());
+                work.hold(-tokens.kind(), tokens.at());
                 tokens.take(tokens.kind());
             }
             return in;
@@ -1277,7 +1277,7 @@ public final class AlgolMill {
                 reduce(base, 0);
                 return false;
             }
-            work.wait(sign, tokens.at());
+            work.hold(sign, tokens.at());
             tokens.take(sign);
             return true;
         }
